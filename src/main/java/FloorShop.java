@@ -493,9 +493,6 @@ public final class FloorShop {
             -ONE, -GOLDEN, 0, GOLDEN
         };
 
-        private Points() {
-        }
-
         static boolean within(int a, int b, int c, int d) {
             return near(a) && near(b) && near(c) && near(d);
         }
