@@ -356,15 +356,12 @@ public final class FloorShop {
         if (strips.apart(m, n)) {
             return false;
         }
-        return strips.overlap(m, n) || edgesDisagree(m, n);
-    }
-
-    private boolean edgesDisagree(int m, int n) {
-        for (int edge = 0; edge < 3; edge++) {
-            for (int other = 0; other < 3; other++) {
-                if (disagree(m, 3 * patch.types[m] + edge, n, 3 * patch.types[n] + other)) {
-                    return true;
-                }
+        if (strips.overlap(m, n)) {
+            return true;
+        }
+        for (int pair = 0; pair < 9; pair++) {
+            if (disagree(m, 3 * patch.types[m] + pair / 3, n, 3 * patch.types[n] + pair % 3)) {
+                return true;
             }
         }
         return false;
@@ -386,17 +383,13 @@ public final class FloorShop {
 
     private boolean starClashes(int n, int corner) {
         for (int m = 1; m < patch.size; m++) {
-            if (patch.cornerAt(m, n, corner) != NONE && clashesInStar(m, n, corner)) {
-                return true;
+            if (patch.cornerAt(m, n, corner) == NONE) {
+                continue;
             }
-        }
-        return false;
-    }
-
-    private boolean clashesInStar(int m, int n, int corner) {
-        for (int earlier = 0; earlier < m; earlier++) {
-            if (patch.cornerAt(earlier, n, corner) != NONE && clashing(earlier, m)) {
-                return true;
+            for (int earlier = 0; earlier < m; earlier++) {
+                if (patch.cornerAt(earlier, n, corner) != NONE && clashing(earlier, m)) {
+                    return true;
+                }
             }
         }
         return false;
