@@ -778,6 +778,7 @@ public final class BoundaryTest {
     run("deflate: what is left out may be anywhere", BoundaryTest::leftOutAnywhere);
     run("deflate: those that are not used are left out", BoundaryTest::leftOut);
     run("deflate: N is to be of TYPE 1, and M is to be there", BoundaryTest::noNorM);
+    run("deflate: the least N and M are the only ones", BoundaryTest::noSecondNorM);
     run("deflate: N is used", BoundaryTest::usedN);
     run("deflate: M is used", BoundaryTest::usedM);
     run("deflate: M of TYPE 0 may be used", BoundaryTest::usedMOfTypeZero);
@@ -905,6 +906,28 @@ public final class BoundaryTest {
     dueCorner("X's C is its C", corner, 3, 2, 0, 0, 0, -1);
     due("three at X", corner.count(0), 4);
     due("deflate() with one at A, one at C", corner.deflate(), 4);
+  }
+
+  /** A second N or M would lie on the first one, or on X: no run of calls can bring one. */
+  private static void noSecondNorM() {
+    for (int way = 0; way < 40; way++) {
+      int type = way % 2;
+      int k = way / 4;
+      boolean left = way / 2 % 2 == 0;
+      int side = left ? 1 : -1;
+      long[] a = at(0, 0, 0, 0);
+      Patch patch = new Patch();
+      placeThree(patch, type, a, k, left);
+      due("X, N and M", patch.count(0), 3);
+      due("N again", patch.place(1, plus(a, E[k]), turned(k, 5), left), NONE);
+      due("N on the side of X", patch.place(1, plus(a, E[k]), turned(k, 5), !left), NONE);
+      for (int other = 0; other < 2; other++) {
+        due("another M", patch.place(other, a, turned(k, side * (other == 0 ? 2 : 4)), !left), NONE);
+        due("M on the side of X", patch.place(other, a, turned(k, side * (other == 0 ? 0 : -2)), left), NONE);
+      }
+      due("deflate()", patch.deflate(), 1 - type);
+      due("one has come to be", patch.count(1 + type), 1);
+    }
   }
 
   /** A half of TYPE 1 that is the M of an X and the N of another X, which has an M of TYPE 0 too. */
